@@ -10,6 +10,7 @@ public final class ActsTest {
         tag();
         undo();
         undoEight();
+        undoEightOfAllSorts();
         undoFreesNumbers();
         between();
         ahead();
@@ -159,6 +160,26 @@ public final class ActsTest {
         }
         check.due("undo() of the ninth", x.undo(), -2);
         check.due("tag", x.node(0, 0), 3);
+    }
+
+    private static void undoEightOfAllSorts() {
+        LabelTree x = new LabelTree();
+        String[] before = new String[12];
+        for (int i = 0; i < 12; i++) {
+            before[i] = Check.labels(x);
+            if (i % 3 == 0) {
+                x.grow(i % 2 == 0 ? 0 : 9, 0, 0);
+            } else if (i % 3 == 1) {
+                x.tag(i % 4, 5);
+            } else {
+                x.cut(4 + i / 3);
+            }
+        }
+        for (int i = 11; i >= 4; i--) {
+            check.due("undo() to " + i, x.undo(), i - 4);
+            check.dueText("labels of " + i, Check.labels(x), before[i]);
+        }
+        check.due("undo() of the ninth", x.undo(), -2);
     }
 
     private static void undoFreesNumbers() {

@@ -27,6 +27,12 @@ public final class PatternsTest {
             check.due("count(2)", x.count(2), size[i]);
         }
         check.due("the text stays", x.count(8), right[10].length());
+        check.due("pattern with a branch left open", Check.pattern(x, "a[/b["), -15);
+        check.due("pattern behind it", Check.pattern(x, "a/b"), 2);
+        check.due("pattern with a tag left out", Check.pattern(x, "a[/b[/"), -16);
+        check.due("pattern behind it", Check.pattern(x, "b"), 1);
+        check.due("hangs on none", x.step(0, 1), -4);
+        check.due("by no axis", x.step(0, 2), -4);
     }
 
     private static void duePatternFault(String text, int place) {
@@ -239,5 +245,10 @@ public final class PatternsTest {
         check.dueText("ends of a[:d]:*[/*[/*]]", Check.ends(x), "2");
         Check.pattern(x, "*:d");
         check.dueText("each once", Check.ends(x), "4 6 9");
+        Check.pattern(x, "*[/*[/*]]");
+        check.dueText("the root, too", Check.ends(x), "0 2");
+        Check.pattern(x, "*");
+        check.due("all", x.end(-1), 10);
+        check.dueText("all in the order", Check.ends(x), Check.order(x));
     }
 }
