@@ -1,11 +1,34 @@
+import java.io.IOException;
+import java.io.UncheckedIOException;
+import java.nio.file.Files;
+import java.nio.file.Path;
+
 /** Counts and prints answers that are not as due; ends with exit code 1 if there was one. */
 final class Check {
+    private static final Path DOCUMENT = Path.of("../shared/DOC.md");
+
     private int asked = 0;
     private int wrong = 0;
     private String where = "";
 
     void promise(int number, String name) {
         where = "promise " + number + " (" + name + ")";
+    }
+
+    /** What follows tests these words, which must stand in the document, where it can be read. */
+    void sentence(String words) {
+        where = "'" + words + "'";
+        if (Files.isReadable(DOCUMENT)) {
+            due("found in the document", document().contains(words) ? 1 : 0, 1);
+        }
+    }
+
+    private static String document() {
+        try {
+            return Files.readString(DOCUMENT);
+        } catch (IOException e) {
+            throw new UncheckedIOException(e);
+        }
     }
 
     void due(String what, long got, long want) {

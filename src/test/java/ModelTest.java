@@ -2,10 +2,12 @@ import java.util.ArrayList;
 import java.util.List;
 import java.util.Random;
 
-/** Runs of calls on fresh objects (512, the letters not counted), each answer held against the model's. */
+/** Runs of calls on fresh objects (512 at most, each letter is one), each answer held against the model's. */
 public final class ModelTest {
-    private static final int RUNS = 400;
+    private static final int RUNS = 800;
     private static final int CALLS = 512;
+    /** More calls than an act can take: without a text, with a pattern's text, with a tree's text. */
+    private static final int FEW = 4, SOME = 80, MANY = 300;
     private static final int[] WILD = {-2, -1, 24, 31, 32, 33, 64, 200, Integer.MIN_VALUE, Integer.MAX_VALUE};
 
     private final Random random;
@@ -17,6 +19,7 @@ public final class ModelTest {
     /** How many tags are used: the fewer, the more matches. */
     private final int tags;
     private boolean wrong = false;
+    private int used = 0;
     private static long unknown = 0;
     private static long asked = 0;
 
@@ -41,7 +44,7 @@ public final class ModelTest {
     }
 
     private boolean run(int seed) {
-        while (calls.size() < CALLS && !wrong) {
+        while (used + FEW <= CALLS && !wrong) {
             act();
         }
         if (wrong) {
@@ -52,6 +55,7 @@ public final class ModelTest {
 
     private void due(String call, long got, long want) {
         asked++;
+        used++;
         calls.add(call + "=" + got);
         if (want == Model.UNKNOWN) {
             unknown++;
@@ -95,7 +99,10 @@ public final class ModelTest {
 
     private void act() {
         int kind = random.nextInt(100);
-        if (kind < 1) {
+        int most = kind >= 1 && kind < 8 ? SOME : MANY;
+        if (kind < 10 && used + most > CALLS) {
+            ask();
+        } else if (kind < 1) {
             text(treeText());
             due("lay()", x.lay(), model.lay());
         } else if (kind < 8) {
@@ -179,6 +186,7 @@ public final class ModelTest {
     private void text(String text) {
         due("wipe()", x.wipe(), model.wipe());
         for (int i = 0; i < text.length(); i++) {
+            used++;
             int got = x.write(text.charAt(i));
             int want = model.write(text.charAt(i));
             if (got != want) {
