@@ -606,8 +606,8 @@ public final class LabelTree {
 
         int childAt(int p, int place) {
             int kid = nextKid(p, 0);
-            for (int i = 0; i < place && kid >= 0; i++) {
-                kid = nextKid(p, spotOf(kid));
+            for (int i = 0; i < place && isNumber(kid); i++) {
+                kid = nextKid(p, spots[kid]);
             }
             return kid;
         }
@@ -630,7 +630,8 @@ public final class LabelTree {
             into.clear();
             place = 0;
             kindTold = false;
-            while (place < text.size()) {
+            // Each ITEM takes a letter at least, so there are no more of them than letters.
+            for (int items = 0; items < LETTERS && place < text.size(); items++) {
                 int start = place;
                 int letter = text.letterAt(place);
                 place++;
@@ -739,7 +740,7 @@ public final class LabelTree {
             }
             for (int k = size - 1; k > 0; k--) {
                 int p = parents[k];
-                if (p >= 0) {
+                if (isRank(p)) {
                     kids[p]++;
                     belows[p] += belows[k] + 1;
                 }

@@ -47,10 +47,23 @@ public final class ModelTest {
         while (used + FEW <= CALLS && !wrong) {
             act();
         }
+        while (used < CALLS && !wrong) {
+            lastCall();
+        }
         if (wrong) {
             System.out.println("seed " + seed + ": " + String.join(" ", calls));
         }
         return !wrong;
+    }
+
+    /** A single call, so that the 512th is reached. */
+    private void lastCall() {
+        int k = random.nextInt(model.count(0));
+        switch (random.nextInt(3)) {
+            case 0: due("undo()", x.undo(), model.undo()); break;
+            case 1: due("matches()", x.matches(), model.matches()); break;
+            default: due("at(" + k + ")", x.at(k), model.at(k)); break;
+        }
     }
 
     private void due(String call, long got, long want) {
